@@ -173,8 +173,8 @@ public final class StreamEditorX {
             for (int round = 0; round <= fuel && verdict == GOING && pointer < commandCount; round++) {
                 verdict = step();
             }
-            if (verdict == GOING) {
-                verdict = printUnlessQuiet();
+            if (verdict == GOING && !quiet) {
+                verdict = print();
             } else if (verdict == CYCLE_CUT) {
                 verdict = GOING;
             }
@@ -637,14 +637,9 @@ public final class StreamEditorX {
         return GOING;
     }
 
-    private int printUnlessQuiet() {
-        return quiet ? GOING : print();
-    }
-
     private int joinNextLine() {
         if (allLinesRead()) {
-            int printed = printUnlessQuiet();
-            return printed == GOING ? RUN_DONE : printed;
+            return quiet || print() == GOING ? RUN_DONE : RUN_OVERFLOW;
         }
         int seam = patternSize;
         int verdict = readLine(seam + 1);
