@@ -13,6 +13,7 @@ public final class CompileTest {
         commandCounts();
         texts();
         regexes();
+        fullScripts();
         tableAndOtherState();
         Check.finish();
     }
@@ -151,15 +152,45 @@ public final class CompileTest {
         StreamEditorX x = Feed.editor("1,2!s/^a*$/[&]/g", "aa\naa\nab");
         x.compile();
         x.run();
+        dueNewOutput(x, "s/a/b/", "ba\nba\nbb\n");
+        dueNewOutput(x, "p", "aa\naa\naa\naa\nab\nab\n");
+        dueNewOutput(x, "1,3d", "");
+        dueNewOutput(x, "1d", "aa\nab\n");
+        dueNewOutput(x, "s/xb*a*/y/;:abc;b", "aa\naa\nab\n");
+        dueNewOutput(x, "s/a/y/", "ya\nya\nyb\n");
+        dueNewOutput(x, "s/./y/", "ya\nya\nyb\n");
+        dueNewRejection(x, "s/a/b/", "s/a/b");
+        dueNewRejection(x, "/a/p", "/a");
+        dueNewRejection(x, ":a;ba", ":");
+        dueNewRejection(x, "1p", "1");
+        dueNewRejection(x, "1,2p", "1,");
+    }
+
+    private static void dueNewOutput(StreamEditorX x, String script, String want) {
         x.clearScript();
-        Feed.script(x, "s/a/b/");
-        x.compile();
-        x.run();
-        Check.due("the second table's output", Feed.output(x), "ba\nba\nbb\n");
+        Feed.script(x, script);
+        Feed.dueRun(x, script, StreamEditorX.RUN_DONE, want);
+    }
+
+    /** The chars of the longer script must not be seen behind the end of the shorter one. */
+    private static void dueNewRejection(StreamEditorX x, String longer, String shorter) {
         x.clearScript();
-        Feed.script(x, "p");
-        x.compile();
-        x.run();
-        Check.due("the third table's output", Feed.output(x), "aa\naa\naa\naa\nab\nab\n");
+        Feed.script(x, longer);
+        Check.due("compile of " + longer + " is accepted", x.compile() > 0, true);
+        x.clearScript();
+        Feed.script(x, shorter);
+        Check.due("compile of " + shorter, x.compile(), StreamEditorX.COMPILE_ERROR);
+    }
+
+    /** Scripts that fill their array, so that a look behind their end would leave it. */
+    private static void fullScripts() {
+        for (String end : new String[] {"p", "p ", "1,2!p", "s/a/b/", "s/a/b/g", ":a", ": a ", "b", "t ", "/a/ d"}) {
+            accepted(1, " ".repeat(128 - end.length()) + end);
+        }
+        for (String end : new String[] {"1", "1 ", "1,", "1, ", "1,2", "/a", "/a/", "/\\", "s", "s/", "s/a/b", ":", ": ", "ba"}) {
+            rejected(" ".repeat(128 - end.length()) + end);
+        }
+        accepted(1, "s/a/" + "b".repeat(123) + "/", "b" + " ".repeat(127), "p" + ";".repeat(127));
+        rejected("s/a/" + "b".repeat(124), "/" + "a".repeat(127), "1".repeat(128), ":" + "a".repeat(127));
     }
 }

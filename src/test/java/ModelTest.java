@@ -10,6 +10,9 @@ public final class ModelTest {
 
     // A fixed seed, so that each run of the test asks the same.
     private final Random random = new Random(20261115);
+    private StreamEditorX x;
+    private int quiet;
+    private int fuel;
     private int accepted = 0;
     private final int[] answers = new int[4];
 
@@ -23,10 +26,10 @@ public final class ModelTest {
     }
 
     private void round() {
+        takeEditor();
         String script = script();
-        int quiet = random.nextInt(2);
-        int fuel = chance(50) ? 16 + random.nextInt(60) : 200 + random.nextInt(200);
-        StreamEditorX x = Feed.editor(quiet, fuel, script, "");
+        x.clearScript();
+        Feed.script(x, script);
         int size = x.compile();
         try {
             Model model = new Model(script);
@@ -40,11 +43,20 @@ public final class ModelTest {
         }
         accepted++;
         for (int n = 0; n < 3; n++) {
-            compareRun(x, script, quiet == 1, fuel);
+            compareRun(script);
         }
     }
 
-    private void compareRun(StreamEditorX x, String script, boolean quiet, int fuel) {
+    /** Most rounds use the last round's editor again, so that what it left behind would show. */
+    private void takeEditor() {
+        if (x == null || chance(10)) {
+            quiet = random.nextInt(2);
+            fuel = chance(50) ? 16 + random.nextInt(60) : 200 + random.nextInt(200);
+            x = new StreamEditorX(quiet, fuel);
+        }
+    }
+
+    private void compareRun(String script) {
         String input = input();
         x.clearInput();
         Feed.input(x, input);
@@ -52,7 +64,7 @@ public final class ModelTest {
             Model model = new Model(script);
             String what = "quiet " + quiet + ", fuel " + fuel + ", " + script + " on " + input;
             int answer = x.run();
-            Check.due("run, " + what, answer, model.run(quiet, fuel, input));
+            Check.due("run, " + what, answer, model.run(quiet == 1, fuel, input));
             Check.due("results, " + what, Feed.results(x), model.results());
             answers[answer]++;
         } catch (Model.Rejected rejected) {

@@ -212,6 +212,13 @@ public final class RunTest {
             Check.due("cut run " + n, y.run(), StreamEditorX.RUN_OUT_OF_STEPS);
             Check.due("results of cut run " + n, Feed.results(y), "a\nb\nc\n|c||3|16");
         }
+        StreamEditorX open = Feed.editor(1, 16, "2,9p", "a\nb\nc");
+        open.compile();
+        for (int n = 0; n < 3; n++) {
+            Feed.dueRun(open, "2,9p", StreamEditorX.RUN_DONE, "b\nc\n");
+            Check.due("run without compile", open.run(), StreamEditorX.RUN_DONE);
+            Check.due("output without compile", Feed.output(open), "b\nc\n");
+        }
         y.clearInput();
         Check.due("run without lines", y.run(), StreamEditorX.RUN_DONE);
         Check.due("results without lines", Feed.results(y), "|||0|0");
