@@ -1,4 +1,5 @@
 import java.util.ArrayList;
+import java.util.Collections;
 import java.util.List;
 import java.util.Random;
 
@@ -13,12 +14,38 @@ public final class LocalityTest {
     private static int checked = 0;
 
     public static void main(String[] args) {
+        edges();
+        Check.sentence("its output is exactly the concatenation, in order j = 1..k, of those outputs.");
+        checked = 0;
         for (int n = 0; n < ROUNDS; n++) {
             round();
         }
         System.out.println(checked + " of " + ROUNDS + " rounds met the condition");
         Check.due("many rounds met the condition", checked > ROUNDS / 4, true);
         Check.finish();
+    }
+
+    private static void edges() {
+        Check.sentence("the sum of those output lengths is at most 256, and the clamped fuel is at least c times k,");
+        String line = "a".repeat(15);
+        // 4 times 4 commands are the least fuel, and 16 times 16 chars the whole output.
+        dueMet(1, 16, "p;p;p;p", 4, List.of(line, line, line, line), true);
+        dueMet(1, Integer.MIN_VALUE, "p;p;p;p", 4, List.of(line, line, line, line), true);
+        dueMet(1, 16, "p;p;p;p", 4, List.of(line, line, line, line + "a"), false);
+        dueMet(1, 16, "p;p;p;p", 4, List.of(line, line, line, line, ""), false);
+        dueMet(0, 2048, "", 0, List.of("a".repeat(64), "a".repeat(63)), true);
+        dueMet(0, 2048, "", 0, List.of("a".repeat(64), "a".repeat(65)), false);
+        dueMet(0, 16, "/a/!d;/b/s/a/b/g", 2, List.of("ab", "b", "", "a", "ba", "bb", "", "aabb"), true);
+        dueMet(0, 16, "/a/!d;/b/s/a/b/g", 2, List.of("ab", "b", "", "a", "ba", "bb", "", "aabb", "b"), false);
+        dueMet(0, 16, "p", 1, List.of(), true);
+        dueMet(1, 2048, "/b/p;".repeat(16), 16, Collections.nCopies(128, ""), true);
+        dueMet(1, 2047, "/b/p;".repeat(16), 16, Collections.nCopies(128, ""), false);
+    }
+
+    private static void dueMet(int quiet, int fuel, String script, int commands, List<String> lines, boolean want) {
+        int before = checked;
+        compare(quiet, fuel, script, commands, lines);
+        Check.due("the condition is met by " + script + " on " + lines, checked == before + 1, want);
     }
 
     private static void round() {
@@ -55,7 +82,8 @@ public final class LocalityTest {
             }
             want.append(Feed.output(alone));
         }
-        if (want.length() > StreamEditorX.OUTPUT_CAP || fuel < commands * lines.size()) {
+        int clamped = Math.max(StreamEditorX.FUEL_MIN, Math.min(StreamEditorX.FUEL_MAX, fuel));
+        if (want.length() > StreamEditorX.OUTPUT_CAP || clamped < commands * lines.size()) {
             return;
         }
         checked++;
