@@ -143,6 +143,7 @@ public final class CycleTest {
         Runs.done("N;N;p", A60 + "\nbc\n", A60 + "\nbc\n|" + A60 + "\nbc||2|2");
         Runs.done("N", A64, A64 + "\n|" + A64 + "||1|1");
         Runs.overflow("p;p;p;p;N", A63, (A63 + "\n").repeat(4) + "|" + A63 + "||1|5");
+        Runs.overflow("p;p;p;p;N;h;d", A63, (A63 + "\n").repeat(4) + "|" + A63 + "||1|5");
         Runs.doneQuiet("p;p;p;p;N", A63, (A63 + "\n").repeat(4) + "|" + A63 + "||1|5");
         Runs.done("$!N;p", "a", "a\na\n|a||1|2");
     }
@@ -157,6 +158,7 @@ public final class CycleTest {
         Runs.done("1h;2g", "d\nabc", "d\nd\n|d|d|2|4");
         Runs.doneQuiet("h;s/.*//;g", A64, "|" + A64 + "|" + A64 + "|1|3");
         Runs.doneQuiet("h;s/a/b/", A64, "|b" + A63 + "|" + A64 + "|1|2");
+        Runs.doneQuiet("s/.$/b/;h;s/.*//;g", A64, "|" + A63 + "b|" + A63 + "b|1|4");
         Runs.doneQuiet("1h;2g;s/$/b/", "a\nc", "|ab|a|2|6");
     }
 
@@ -199,6 +201,8 @@ public final class CycleTest {
         Runs.done("x;x", "ab", "ab\n|ab||1|2");
         Runs.done("x;G", "ab\nc", "\nab\nab\nc\n|ab\nc|c|2|4");
         Runs.doneQuiet("x", A64 + "\nb", "|" + A64 + "|b|2|2");
+        Runs.doneQuiet("h;s/.$/b/;x", A64, "|" + A64 + "|" + A63 + "b|1|3");
+        Runs.doneQuiet("h;s/^./b/;x", A64, "|" + A64 + "|b" + A63 + "|1|3");
         Runs.doneQuiet("h;x;g;x", A64, "|" + A64 + "|" + A64 + "|1|4");
         Runs.doneQuiet("x", "\n", "|||1|1");
         Runs.doneQuiet("h;g;H;x;s/.*//;G;p", "a", "\na\n|\na|a|1|7");
