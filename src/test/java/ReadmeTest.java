@@ -73,13 +73,7 @@ public final class ReadmeTest {
                 face.add(method.getName());
             }
         }
-        TreeSet<String> named = new TreeSet<>();
-        for (String[] row : table("call", "what it does, and what it answers")) {
-            Matcher call = Pattern.compile("(\\w+)\\(").matcher(row[0]);
-            while (call.find()) {
-                named.add(call.group(1));
-            }
-        }
+        TreeSet<String> named = names("(\\w+)\\(", table("call", "what it does, and what it answers"));
         Check.due("the calls", named.toString(), face.toString());
     }
 
@@ -126,14 +120,20 @@ public final class ReadmeTest {
             files.map(file -> file.getFileName().toString()).filter(name -> name.endsWith("Test.java"))
                     .forEach(name -> there.add(name.replace(".java", "")));
         }
-        TreeSet<String> named = new TreeSet<>();
-        for (String[] row : table("test", "what it tests")) {
-            Matcher name = Pattern.compile("`(\\w+)`").matcher(row[0]);
+        TreeSet<String> named = names("`(\\w+)`", table("test", "what it tests"));
+        Check.due("the tests", named.toString(), there.toString());
+    }
+
+    /** The names of that form in the first cells of the rows. */
+    private static TreeSet<String> names(String form, List<String[]> rows) {
+        TreeSet<String> names = new TreeSet<>();
+        for (String[] row : rows) {
+            Matcher name = Pattern.compile(form).matcher(row[0]);
             while (name.find()) {
-                named.add(name.group(1));
+                names.add(name.group(1));
             }
         }
-        Check.due("the tests", named.toString(), there.toString());
+        return names;
     }
 
     /** The one block of that kind. */
